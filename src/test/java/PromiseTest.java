@@ -508,6 +508,8 @@ public final class PromiseTest {
         type(x, "a");
         x.forget(3);
         dueCompletions(x, 1, 2, 3, 0);
+        learn(x, "a", 5);
+        dueCompletions(x, 0, 1, 2, 3);
     }
 
     private static void edit() {
