@@ -1,64 +1,54 @@
 /** For each promise of the document: ordinary inputs, the edges that it names, and wrong inputs. */
-public final class PromiseTest {
-    private static final int[] FAR_INTS = {
-        Integer.MIN_VALUE, Integer.MIN_VALUE + 1, -1000, Integer.MAX_VALUE - 1, Integer.MAX_VALUE
-    };
-
-    private static int wrong = 0;
-    private static int promise = 0;
-
+public final class PromiseTest extends DeskTest {
     public static void main(String[] args) {
-        promise = 1;
+        about("promise 1");
         newObject();
         newObjectsAreApart();
-        promise = 2;
+        about("promise 2");
         key();
-        promise = 3;
+        about("promise 3");
         back();
-        promise = 4;
+        about("promise 4");
         wipe();
-        promise = 5;
+        about("promise 5");
         length();
-        promise = 6;
+        about("promise 6");
         typed();
-        promise = 7;
+        about("promise 7");
         learnNewAndKnown();
         learnToTheGreatestCount();
         learnRefused();
         learnWhenFull();
-        promise = 8;
+        about("promise 8");
         forget();
         forgetAndLearnAgain();
-        promise = 9;
+        about("promise 9");
         words();
-        promise = 10;
+        about("promise 10");
         letter();
         orderOfWords();
-        promise = 11;
+        about("promise 11");
         count();
-        promise = 12;
+        about("promise 12");
         rank();
-        promise = 13;
+        about("promise 13");
         distance();
-        promise = 14;
+        about("promise 14");
         near();
-        promise = 15;
+        about("promise 15");
         suggest();
         suggestWithEqualDistances();
-        promise = 16;
+        about("promise 16");
         complete();
-        promise = 17;
+        about("promise 17");
         edit();
         editPrefersEarlierKinds();
         editOfTheLongestRows();
-        promise = 18;
+        about("promise 18");
         drops();
-        promise = 0;
+        about("all promises");
         askingChangesNothing();
-        System.out.println(wrong == 0 ? "all answers are as due" : wrong + " answers are not as due");
-        if (wrong != 0) {
-            System.exit(1);
-        }
+        finish();
     }
 
     private static void newObject() {
@@ -606,112 +596,5 @@ public final class PromiseTest {
         dueWords(x, "car", "cart", "cat");
         dueCounts(x, 9, 2, 5);
         dueSuggestions(x, 2, 2, 0, 1);
-    }
-
-    private static void dueTyped(SpellDesk x, String letters) {
-        due("length()", x.length(), letters.length());
-        for (int i = 0; i < letters.length(); i++) {
-            due("typed(" + i + ") of " + letters, x.typed(i), letters.charAt(i) - 'a');
-        }
-        due("typed(" + letters.length() + ") of " + letters, x.typed(letters.length()), -1);
-    }
-
-    private static void dueWords(SpellDesk x, String... words) {
-        due("words()", x.words(), words.length);
-        for (int k = 0; k < words.length; k++) {
-            String word = words[k];
-            for (int i = 0; i < word.length(); i++) {
-                due("letter(" + k + ", " + i + ") of " + word, x.letter(k, i), word.charAt(i) - 'a');
-            }
-            due("letter(" + k + ", " + word.length() + ") of " + word, x.letter(k, word.length()), -1);
-        }
-        due("letter(" + words.length + ", 0)", x.letter(words.length, 0), -1);
-    }
-
-    private static void dueCounts(SpellDesk x, int... counts) {
-        for (int k = 0; k < counts.length; k++) {
-            due("count(" + k + ")", x.count(k), counts[k]);
-        }
-        due("count(" + counts.length + ")", x.count(counts.length), 0);
-    }
-
-    private static void dueRank(SpellDesk x, String letters, int rank) {
-        type(x, letters);
-        due("rank() of " + letters, x.rank(), rank);
-    }
-
-    private static void dueDistance(String letters, String word, int distance) {
-        SpellDesk x = desk(word, 1);
-        type(x, letters);
-        due("distance(0) of " + letters + " and " + word, x.distance(0), distance);
-    }
-
-    private static void dueSuggestions(SpellDesk x, int d, int... ranks) {
-        for (int i = 0; i < ranks.length; i++) {
-            due("suggest(" + i + ", " + d + ")", x.suggest(i, d), ranks[i]);
-        }
-        due("suggest(" + ranks.length + ", " + d + ")", x.suggest(ranks.length, d), -1);
-        due("suggest(-1, " + d + ")", x.suggest(-1, d), -1);
-    }
-
-    private static void dueCompletions(SpellDesk x, int... ranks) {
-        for (int i = 0; i < ranks.length; i++) {
-            due("complete(" + i + ")", x.complete(i), ranks[i]);
-        }
-        due("complete(" + ranks.length + ")", x.complete(ranks.length), -1);
-        due("complete(-1)", x.complete(-1), -1);
-    }
-
-    private static void dueRow(String letters, String word, String row) {
-        SpellDesk x = desk(word, 1);
-        type(x, letters);
-        for (int j = 0; j < row.length(); j++) {
-            due("edit(0, " + j + ") of " + letters + " to " + word, x.edit(0, j), "KCDA".indexOf(row.charAt(j)));
-        }
-        due("edit(0, " + row.length() + ") of " + letters + " to " + word, x.edit(0, row.length()), -1);
-        due("edit(0, -1) of " + letters + " to " + word, x.edit(0, -1), -1);
-    }
-
-    private static void dueDrops(String letters, int... lists) {
-        SpellDesk x = new SpellDesk();
-        type(x, letters);
-        for (int n = 0; n < lists.length; n++) {
-            due("drops(" + n + ") of " + letters, x.drops(n), lists[n]);
-        }
-        due("drops(" + lists.length + ") of " + letters, x.drops(lists.length), 0);
-        due("drops(-1) of " + letters, x.drops(-1), 0);
-    }
-
-    /** A new desk that learned words, each given with its count behind it. */
-    private static SpellDesk desk(Object... wordsAndCounts) {
-        SpellDesk x = new SpellDesk();
-        for (int i = 0; i < wordsAndCounts.length; i += 2) {
-            String word = (String) wordsAndCounts[i];
-            due("learn " + word, learn(x, word, (Integer) wordsAndCounts[i + 1]), 0);
-        }
-        return x;
-    }
-
-    private static int learn(SpellDesk x, String letters, int n) {
-        type(x, letters);
-        return x.learn(n);
-    }
-
-    private static void type(SpellDesk x, String letters) {
-        x.wipe();
-        for (int i = 0; i < letters.length(); i++) {
-            due("key of " + letters, x.key(letters.charAt(i) - 'a'), true);
-        }
-    }
-
-    private static void due(String call, boolean got, boolean want) {
-        due(call, got ? 1 : 0, want ? 1 : 0);
-    }
-
-    private static void due(String call, int got, int want) {
-        if (got != want) {
-            wrong++;
-            System.out.println("promise " + promise + ": " + call + " answered " + got + ", due is " + want);
-        }
     }
 }
